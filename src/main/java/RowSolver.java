@@ -12,6 +12,7 @@ public final class RowSolver {
     private static final int MOST_NODES = 2 * MOST_SPLITS + 1;
     private static final int MOST_LEAVES = MOST_SPLITS + 1;
     private static final long MOST_SPLIT = 1_000_000_000_000_000_000L;
+    private static final long TOO_FAR = 4 * MOST_SPLIT;
     private static final int MOST_GIVEN = 1_000_000_000;
     private static final int MOST_TOLD = 2_000_000_000;
     private static final int NO_NUMBER = -4;
@@ -28,9 +29,10 @@ public final class RowSolver {
     private static final int MULTIPLIERS = FIRST_LOWER + MOST_VARIABLES;
 
     /*
-     * Numbers have nine digits a limb. A cell is a minor of at most ten rows, so at most 10^65 (by Hadamard);
-     * an amount is ten cells times values of at most 10^18 + 1; and a sum that a judge makes of 32 parts,
-     * 11 of them cells and the others given with nine digits, stays below 10^1100.
+     * Numbers have nine digits a limb. A cell is a minor of at most ten rows, so at most 10^65 (by Hadamard), and
+     * an amount is the sum of ten cells times values of at most 10^18 + 1. Of the 32 parts that a judge sums up, 11
+     * may be cells, the others are given with nine digits: over the product of all that is below, it needs less
+     * than 10^1000.
      */
     private static final int BASE = 1_000_000_000;
     private static final int CELL_ROOM = 8;
@@ -43,7 +45,7 @@ public final class RowSolver {
     private final Sum sum = new Sum();
     private final Tableau tableau = new Tableau(sum, division);
     private final Tree tree = new Tree();
-    private final Solving solving = new Solving(rows, tableau, tree, division);
+    private final Solving solving = new Solving(rows, tableau, tree);
     private final Judge judge = new Judge(rows, tree, sum, division);
     private final Fraction[] witness = new Fraction[MOST_VARIABLES];
     private final Fraction hand = new Fraction(AMOUNT_ROOM);
@@ -306,7 +308,11 @@ public final class RowSolver {
             return k >= 0 && k < length ? limbs[k] : 0;
         }
 
-        /** The number itself, where one limb holds it. */
+        boolean isSmall() {
+            return length <= 1;
+        }
+
+        /** The number itself, where isSmall. */
         long small() {
             return length == 0 ? 0L : (long) sign * limbs[0];
         }
@@ -649,7 +655,7 @@ public final class RowSolver {
         private final Sum sum;
         private final Division division;
         private final Big[] cells = new Big[MOST_ROWS * MOST_VARIABLES];
-        final Big[] amounts = new Big[MOST_ROWS];
+        private final Big[] amounts = new Big[MOST_ROWS];
         final long[] resting = new long[MOST_VARIABLES];
         final int[] rowPlaces = new int[MOST_ROWS];
         final int[] columnPlaces = new int[MOST_VARIABLES];
@@ -728,16 +734,22 @@ public final class RowSolver {
         }
 
         int compareAmount(int row, long bound) {
+            sumMiss(row, bound);
+            return sum.signNow();
+        }
+
+        /** Sums how far a row's amount is above a bound, which is to be divided by the common number too. */
+        private void sumMiss(int row, long bound) {
             sum.clear();
             sum.addTimes(amounts[row], 1);
             sum.addTimes(common, -bound);
-            return sum.signNow();
         }
 
         /** The row's place leaves and becomes the bound, the column's place becomes basic. */
         void exchange(int row, int column, long bound) {
             Big pivot = cell(row, column);
-            storeMiss(row, bound);
+            sumMiss(row, bound);
+            sum.store(miss);
             for (int other = 0; other < rowCount; other++) {
                 if (other == row) {
                     continue;
@@ -756,14 +768,6 @@ public final class RowSolver {
             int leaving = rowPlaces[row];
             seatRow(row, columnPlaces[column]);
             seatColumn(column, leaving);
-        }
-
-        /** How far a row's amount is above a bound, as amounts are told. */
-        private void storeMiss(int row, long bound) {
-            sum.clear();
-            sum.addTimes(amounts[row], 1);
-            sum.addTimes(common, -bound);
-            sum.store(miss);
         }
 
         /** Tells the column's place by the row's, and makes the pivot what all is to be divided by. */
@@ -790,10 +794,9 @@ public final class RowSolver {
                 return;
             }
             int turn = pivot.sign;
-            if (target.length <= 1 && pivot.length <= 1 && side.length <= 1 && edge.length <= 1 && common.length == 1) {
-                long number = target.small() * pivot.small() - side.small() * edge.small();
-                long by = common.small();
-                target.setLong(by > 0 ? turn * number / by : 0);
+            long by = common.small();
+            if (target.isSmall() && pivot.isSmall() && side.isSmall() && edge.isSmall() && common.isSmall() && by > 0) {
+                target.setLong(turn * (target.small() * pivot.small() - side.small() * edge.small()) / by);
                 return;
             }
             sum.clear();
@@ -820,13 +823,23 @@ public final class RowSolver {
             resting[column] = number;
         }
 
-        /** Divides a row's amount by the common number: whether it is whole. */
         boolean isAmountWhole(int row) {
             if (common.isOne()) {
                 return true;
             }
             division.divide(amounts[row], common);
             return division.rest.length == 0;
+        }
+
+        /** The greatest whole number below an amount that is not whole, or TOO_FAR for any that no split can have. */
+        long floorOfAmount(int row) {
+            division.divide(amounts[row], common);
+            Big size = division.quotient;
+            if (size.length > 3 || size.limbAt(2) > 1) {
+                return TOO_FAR;
+            }
+            long number = size.limbAt(2) * MOST_SPLIT + size.lowPair();
+            return amounts[row].sign < 0 ? -number - 1 : number;
         }
     }
 
@@ -997,7 +1010,6 @@ public final class RowSolver {
         private final Rows rows;
         private final Tableau tableau;
         private final Tree tree;
-        private final Division division;
         private final Bounds bounds = new Bounds();
         int stage = NOT_BEGUN;
         int steps;
@@ -1005,11 +1017,10 @@ public final class RowSolver {
         int conflicts;
         int splits;
 
-        Solving(Rows rows, Tableau tableau, Tree tree, Division division) {
+        Solving(Rows rows, Tableau tableau, Tree tree) {
             this.rows = rows;
             this.tableau = tableau;
             this.tree = tree;
-            this.division = division;
         }
 
         void forget() {
@@ -1141,18 +1152,15 @@ public final class RowSolver {
             }
         }
 
-        /** Splits where isAmountWhole has just left its quotient. */
         private void split(int x, int row) {
-            Big size = division.quotient;
-            boolean isBelow = tableau.amounts[row].sign < 0;
-            boolean isFar = size.length > 3 || size.length == 3 && (isBelow || size.limbs[2] > 1 || size.lowPair() > 0);
+            long at = tableau.floorOfAmount(row);
+            boolean isFar = at > MOST_SPLIT || at < -MOST_SPLIT;
             if (isFar || splits >= MOST_SPLITS || tree.splitsAbove(tree.open) >= MOST_OPEN) {
                 stage = DEEP;
                 return;
             }
-            long at = size.limbAt(2) * MOST_SPLIT + size.lowPair();
             splits++;
-            tree.splitOpen(x, isBelow ? -at - 1 : at);
+            tree.splitOpen(x, at);
             setSplitBounds();
         }
     }

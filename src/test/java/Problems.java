@@ -1,0 +1,54 @@
+/** Small problems whose steps are worked out by hand in the tests. */
+final class Problems {
+    private Problems() {
+    }
+
+    static void row(RowSolver solver, int kind, int b, int... factors) {
+        for (int x = 0; x < factors.length; x++) {
+            solver.factor(x, factors[x]);
+        }
+        solver.row(kind, b);
+    }
+
+    /** 2 x0 = 1, x0 whole: an exchange, a split at 0, a conflict on either side. */
+    static RowSolver half() {
+        RowSolver solver = new RowSolver();
+        solver.variables(1);
+        row(solver, 2, 1, 2);
+        solver.whole(0, true);
+        return solver;
+    }
+
+    /** 2 x0 - x1 = 1, x1 at most 0 and at least 0, x0 whole: at BACK x0 is not basic. */
+    static RowSolver wedge() {
+        RowSolver solver = new RowSolver();
+        solver.variables(2);
+        row(solver, 2, 1, 2, -1);
+        row(solver, 0, 0, 0, 1);
+        row(solver, 1, 0, 0, 1);
+        solver.whole(0, true);
+        return solver;
+    }
+
+    /** x0 at least 1, at most 3, 2 x0 + 4 x1 = 7: SAT. */
+    static RowSolver open() {
+        RowSolver solver = new RowSolver();
+        solver.variables(2);
+        row(solver, 1, 1, 1, 0);
+        row(solver, 0, 3, 1, 0);
+        row(solver, 2, 7, 2, 4);
+        return solver;
+    }
+
+    /** x3 = (sign * 2 * 10^18 + b) / 2, x3 whole. */
+    static RowSolver far(int sign, int b) {
+        RowSolver solver = new RowSolver();
+        solver.variables(4);
+        row(solver, 2, 1_000_000, 1);
+        row(solver, 2, 0, -1_000_000, 1);
+        row(solver, 2, 0, 0, -2, 1);
+        row(solver, 2, b, 0, 0, -sign * 1_000_000, 2);
+        solver.whole(3, true);
+        return solver;
+    }
+}

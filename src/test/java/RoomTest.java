@@ -1,0 +1,59 @@
+import java.lang.management.ManagementFactory;
+
+/** All calls of one run live in one room: what is made is made once and used again. */
+final class RoomTest {
+    private static final Check CHECK = new Check("RoomTest");
+    private static final long MOST_BYTES = 2_000_000;
+    private static final com.sun.management.ThreadMXBean THREADS =
+            (com.sun.management.ThreadMXBean) ManagementFactory.getThreadMXBean();
+
+    public static void main(String[] args) {
+        if (!THREADS.isThreadAllocatedMemorySupported()) {
+            System.out.println("RoomTest: this machine does not tell what is made");
+            System.exit(0);
+        }
+        run(2);
+        long made = run(500);
+        System.out.println("RoomTest: " + made + " bytes by the dearest run");
+        CHECK.due("at most", Math.max(made, MOST_BYTES), MOST_BYTES);
+        CHECK.due("a new object is small", Math.max(newObject(), 60_000), 60_000);
+        CHECK.end();
+    }
+
+    private static long made() {
+        return THREADS.getThreadAllocatedBytes(Thread.currentThread().getId());
+    }
+
+    private static long newObject() {
+        long before = made();
+        new RowSolver();
+        return made() - before;
+    }
+
+    /** As many splits as there can be, solved again and again, judged and told. */
+    private static long run(int calls) {
+        long before = made();
+        RowSolver solver = new RowSolver();
+        solver.variables(3);
+        solver.factor(0, -6);
+        solver.factor(1, 6);
+        solver.factor(2, -10);
+        solver.row(2, -17);
+        int[] ends = {12, 5, 9};
+        for (int x = 0; x < 3; x++) {
+            solver.factor(x, 1);
+            solver.row(0, ends[x]);
+            solver.factor(x, 1);
+            solver.row(1, -ends[x]);
+            solver.whole(x, true);
+        }
+        for (int k = 0; k < calls; k += 5) {
+            solver.whole(0, true);
+            solver.solve(20_000);
+            solver.judgeTree();
+            solver.multiplier(290 - k % 100, 0, 0);
+            solver.value(k % 10);
+        }
+        return made() - before;
+    }
+}
