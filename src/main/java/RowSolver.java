@@ -733,22 +733,18 @@ public final class RowSolver {
             }
         }
 
+        /** The sign of how far a row's amount is above a bound; the sum is left, to be divided by the common number. */
         int compareAmount(int row, long bound) {
-            sumMiss(row, bound);
-            return sum.signNow();
-        }
-
-        /** Sums how far a row's amount is above a bound, which is to be divided by the common number too. */
-        private void sumMiss(int row, long bound) {
             sum.clear();
             sum.addTimes(amounts[row], 1);
             sum.addTimes(common, -bound);
+            return sum.signNow();
         }
 
         /** The row's place leaves and becomes the bound, the column's place becomes basic. */
         void exchange(int row, int column, long bound) {
             Big pivot = cell(row, column);
-            sumMiss(row, bound);
+            compareAmount(row, bound);
             sum.store(miss);
             for (int other = 0; other < rowCount; other++) {
                 if (other == row) {
@@ -975,14 +971,12 @@ public final class RowSolver {
             }
         }
 
-        void splitOpen(int x, long at) {
-            if (!has(open)) {
-                return;
+        void setSplitAt(int k, int x, long at) {
+            if (has(k)) {
+                variable[k] = x;
+                foundAt[k] = at;
+                toldAt[k] = at;
             }
-            variable[open] = x;
-            foundAt[open] = at;
-            toldAt[open] = at;
-            addLeaf(open);
         }
 
         int splitsAbove(int k) {
@@ -1049,27 +1043,25 @@ public final class RowSolver {
             steps++;
             int place = firstBeyond();
             if (place < 0) {
-                splitOrEnd();
+                int x = firstNotWhole();
+                if (x >= 0) {
+                    split(x);
+                } else {
+                    stage = SAT;
+                }
                 return;
             }
             int row = tableau.rowOf(place);
             int side = sideBeyond(place, row);
             int column = enteringColumn(row, side);
-            if (column < 0) {
-                conflict(row, side);
+            if (column >= 0) {
+                exchanges++;
+                tableau.exchange(row, column, side < 0 ? bounds.lower[place] : bounds.upper[place]);
                 return;
             }
-            exchanges++;
-            tableau.exchange(row, column, side < 0 ? bounds.lower[place] : bounds.upper[place]);
-        }
-
-        private void splitOrEnd() {
-            int x = firstNotWhole();
-            if (x >= 0) {
-                split(x, tableau.rowOf(x));
-            } else {
-                stage = SAT;
-            }
+            conflicts++;
+            closeLeaf(row, side);
+            goBack();
         }
 
         private int firstBeyond() {
@@ -1115,24 +1107,6 @@ public final class RowSolver {
             return NONE;
         }
 
-        private void conflict(int row, int side) {
-            conflicts++;
-            closeLeaf(row, side);
-            int split = tree.lastWaiting();
-            if (split < 0) {
-                stage = UNSAT;
-                tree.open = NONE;
-                return;
-            }
-            tree.addLeaf(split);
-            setSplitBounds();
-            int x = tree.variable[split];
-            int column = tableau.columnOf(x);
-            if (column >= 0 && tableau.resting[column] < bounds.lower[x]) {
-                tableau.move(column, bounds.lower[x]);
-            }
-        }
-
         private void closeLeaf(int row, int side) {
             Leaf leaf = tree.leafOf(tree.open);
             if (leaf == null) {
@@ -1152,15 +1126,32 @@ public final class RowSolver {
             }
         }
 
-        private void split(int x, int row) {
-            long at = tableau.floorOfAmount(row);
+        private void goBack() {
+            int split = tree.lastWaiting();
+            if (split < 0) {
+                stage = UNSAT;
+                tree.open = NONE;
+                return;
+            }
+            tree.addLeaf(split);
+            setSplitBounds();
+            int x = tree.variable[split];
+            int column = tableau.columnOf(x);
+            if (column >= 0 && tableau.resting[column] < bounds.lower[x]) {
+                tableau.move(column, bounds.lower[x]);
+            }
+        }
+
+        private void split(int x) {
+            long at = tableau.floorOfAmount(tableau.rowOf(x));
             boolean isFar = at > MOST_SPLIT || at < -MOST_SPLIT;
             if (isFar || splits >= MOST_SPLITS || tree.splitsAbove(tree.open) >= MOST_OPEN) {
                 stage = DEEP;
                 return;
             }
             splits++;
-            tree.splitOpen(x, at);
+            tree.setSplitAt(tree.open, x, at);
+            tree.addLeaf(tree.open);
             setSplitBounds();
         }
     }
