@@ -1027,7 +1027,6 @@ public final class RowSolver {
         }
 
         void begin() {
-            forget();
             stage = GOES_ON;
             tableau.begin(rows);
             tree.addLeaf(NONE);

@@ -40,6 +40,21 @@ final class Problems {
         return solver;
     }
 
+    /** One equal row, and each variable within its end either way, all whole. */
+    static RowSolver boxed(int b, int[] factors, int[] ends) {
+        RowSolver solver = new RowSolver();
+        solver.variables(factors.length);
+        row(solver, 2, b, factors);
+        for (int x = 0; x < ends.length; x++) {
+            solver.factor(x, 1);
+            solver.row(0, ends[x]);
+            solver.factor(x, 1);
+            solver.row(1, -ends[x]);
+            solver.whole(x, true);
+        }
+        return solver;
+    }
+
     /** x3 = (sign * 2 * 10^18 + b) / 2, x3 whole. */
     static RowSolver far(int sign, int b) {
         RowSolver solver = new RowSolver();

@@ -33,25 +33,12 @@ final class RoomTest {
     /** As many splits as there can be, solved again and again, judged and told. */
     private static long run(int calls) {
         long before = made();
-        RowSolver solver = new RowSolver();
-        solver.variables(3);
-        solver.factor(0, -6);
-        solver.factor(1, 6);
-        solver.factor(2, -10);
-        solver.row(2, -17);
-        int[] ends = {12, 5, 9};
-        for (int x = 0; x < 3; x++) {
-            solver.factor(x, 1);
-            solver.row(0, ends[x]);
-            solver.factor(x, 1);
-            solver.row(1, -ends[x]);
-            solver.whole(x, true);
-        }
+        RowSolver solver = Problems.boxed(5, new int[] {-2, -6, 4}, new int[] {10, 4, 3});
         for (int k = 0; k < calls; k += 5) {
             solver.whole(0, true);
             solver.solve(20_000);
             solver.judgeTree();
-            solver.multiplier(290 - k % 100, 0, 0);
+            solver.multiplier(300 - k % 100, 0, 0);
             solver.value(k % 10);
         }
         return made() - before;

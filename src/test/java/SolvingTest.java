@@ -129,22 +129,20 @@ final class SolvingTest {
     }
 
     private static void deepBySplitsMade() {
-        RowSolver solver = new RowSolver();
-        solver.variables(3);
-        Problems.row(solver, 2, -17, -6, 6, -10);
-        int[] ends = {12, 5, 9};
-        for (int x = 0; x < 3; x++) {
-            solver.factor(x, 1);
-            solver.row(0, ends[x]);
-            solver.factor(x, 1);
-            solver.row(1, -ends[x]);
-            solver.whole(x, true);
-        }
+        RowSolver solver = Problems.boxed(-17, new int[] {-6, 6, -10}, new int[] {12, 5, 9});
         CHECK.due("150 made", solver.solve(20_000), 459);
         CHECK.states("150 made", solver, 4, 459, 168, 140, 150, 18, 7, 3, 291);
         CHECK.due("stays", solver.solve(1), 0);
         CHECK.due("the last leaf is open", solver.node(290, 0), 2);
         CHECK.due("there is none behind it", solver.node(291, 0), Check.NO_NODE);
+        RowSolver last = Problems.boxed(5, new int[] {-2, -6, 4}, new int[] {10, 4, 3});
+        for (int round = 0; round < 3; round++) {
+            CHECK.due("150 are enough", last.solve(20_000), 502);
+            CHECK.states("150 are enough", last, 3, 502, 201, 151, 150, 0, 7, 3, 301);
+            CHECK.due("good", last.judgeTree(), 0);
+            CHECK.due("the last node", last.node(300, 0), 1);
+            last.whole(0, true);
+        }
     }
 
     private static void deepByFarSplits() {
@@ -159,6 +157,26 @@ final class SolvingTest {
             CHECK.due(what + " tree", solver.judgeTree(), one[2] == 3 ? 0 : 1);
             CHECK.due(what + " f is cut", solver.node(0, 2), one[2] == 3 ? one[0] * 2_000_000_000 : Check.NONE);
         }
+        for (int end = 3; end <= 9; end++) {
+            RowSolver solver = farther(end);
+            solver.solve(20_000);
+            CHECK.due("10^" + 6 * end + " + 1/2", solver.state(0), end == 3 ? 3 : 4);
+            CHECK.due("10^" + 6 * end + " + 1/2 splits", solver.state(4), end == 3 ? 1 : 0);
+        }
+    }
+
+    /** Each variable is 10^6 times the one before it, the last one 1/2 more, and whole. */
+    private static RowSolver farther(int end) {
+        RowSolver solver = new RowSolver();
+        solver.variables(end + 1);
+        Problems.row(solver, 2, 1_000_000, 1);
+        for (int x = 1; x <= end; x++) {
+            solver.factor(x - 1, x < end ? -1_000_000 : -2);
+            solver.factor(x, x < end ? 1 : 2);
+            solver.row(2, x < end ? 0 : 1);
+        }
+        solver.whole(end, true);
+        return solver;
     }
 
     private static void startsAnew() {

@@ -12,6 +12,7 @@ final class TreeTest {
         setSplit();
         solvingGoesOnByWhatItFound();
         judgeTree();
+        wrongBounds();
         judgeUnfinishedTree();
         looserBoundsDoNotCount();
         CHECK.end();
@@ -203,6 +204,36 @@ final class TreeTest {
         solver.setMultiplier(0, 0, 0, 1, 1);
         solver.setMultiplier(0, 0, 1, -1, 1);
         CHECK.due("right signs, but above 0", solver.judgeTree(), 1);
+        for (int wrong = 0; wrong < 2; wrong++) {
+            RowSolver one = new RowSolver();
+            one.variables(1);
+            Problems.row(one, wrong == 0 ? 0 : 2, 1, 1);
+            Problems.row(one, wrong == 1 ? 1 : 2, 0, 1);
+            one.solve(1);
+            one.setMultiplier(0, 0, 0, -1, 1);
+            one.setMultiplier(0, 0, 1, 1, 1);
+            CHECK.due("one wrong sign, of row " + wrong, one.judgeTree(), 1);
+        }
+    }
+
+    /** Each change keeps the sums: only the sign of a bound's multiplier is wrong, or the bound is not there. */
+    private static void wrongBounds() {
+        // b, f, leaf, its row's multiplier (halves), its upper bound's, its lower bound's, the answer
+        int[][] cases = {{1, 5, 1, 1, -1, 0, 2}, {1, -5, 2, -1, 0, 1, 3}, {1, 0, 2, -1, 1, 0, 3}, {-1, -1, 1, 1, 0, -1, 2},
+            {1, 0, 1, -1, 1, 0, 0}, {1, 0, 2, 1, 0, -1, 0}};
+        for (int[] one : cases) {
+            RowSolver solver = new RowSolver();
+            solver.variables(1);
+            Problems.row(solver, 2, one[0], 2);
+            solver.whole(0, true);
+            solver.solve(20);
+            CHECK.due("good", solver.judgeTree(), 0);
+            solver.setSplit(0, one[1]);
+            solver.setMultiplier(one[2], 0, 0, one[3], 2);
+            solver.setMultiplier(one[2], 1, 0, one[4], 1);
+            solver.setMultiplier(one[2], 2, 0, one[5], 1);
+            CHECK.due("leaf " + one[2] + " has " + one[4] + " and " + one[5], solver.judgeTree(), one[6]);
+        }
     }
 
     private static void judgeUnfinishedTree() {
