@@ -1106,12 +1106,12 @@ public final class RowSolver {
             return NONE;
         }
 
+        /** Those that the conflict does not name stay: someone may have set them while the leaf was open. */
         private void closeLeaf(int row, int side) {
             Leaf leaf = tree.leafOf(tree.open);
             if (leaf == null) {
                 return;
             }
-            leaf.clear();
             tree.closed[tree.open] = true;
             Big common = tableau.common;
             leaf.ofPlace(tableau.rowPlaces[row], rows.variables, side).setQuotient(common, common, side);

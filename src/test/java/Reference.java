@@ -300,9 +300,6 @@ final class Reference {
         conflicts++;
         Node leaf = nodes.get(open);
         leaf.closed = true;
-        for (Ratio[] sort : leaf.multipliers) {
-            Arrays.fill(sort, Ratio.ZERO);
-        }
         setBound(leaf, b, !below, Ratio.of(below ? -1 : 1));
         for (int q = 0; q < places(); q++) {
             Ratio a = told[b][q];

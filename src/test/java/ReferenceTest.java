@@ -133,7 +133,7 @@ final class ReferenceTest {
         int nodes = Math.max(1, reference.state(8));
         int k = below(nodes);
         int place = below(n + Math.max(1, reference.state(6)));
-        switch (below(20)) {
+        switch (below(21)) {
             case 0, 1 -> solve(1 + below(below(2) == 0 ? 3 : 30));
             case 2 -> {
                 int what = below(9);
@@ -170,6 +170,13 @@ final class ReferenceTest {
             case 18 -> {
                 if (below(4) == 0) {
                     setSplit(k, near(4));
+                }
+            }
+            case 19 -> {
+                if (below(2) == 0) {
+                    int sort = below(3);
+                    int i = below(sort == 0 ? Math.max(1, reference.state(6)) : n);
+                    setMultiplier(nodes - 1, sort, i, near(2), 1);
                 }
             }
             default -> {

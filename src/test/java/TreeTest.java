@@ -14,6 +14,9 @@ final class TreeTest {
         judgeTree();
         wrongBounds();
         judgeUnfinishedTree();
+        conflictGivesWhatItNames();
+        otherBoundStays();
+        newLeavesHaveZeros();
         looserBoundsDoNotCount();
         CHECK.end();
     }
@@ -248,10 +251,91 @@ final class TreeTest {
         CHECK.due("set by hand", solver.setMultiplier(2, 2, 0, -1, 1), 0);
         CHECK.due("good already", solver.judgeTree(), 0);
         CHECK.due("but not closed", solver.node(2, 0), 2);
-        CHECK.due("set", solver.setMultiplier(2, 1, 0, 5, 1), 0);
         solver.solve(1);
         CHECK.due("closed", solver.node(2, 0), 1);
-        CHECK.due("by what the conflict says", solver.multiplier(2, 1, 0), 0);
+        CHECK.due("good", solver.judgeTree(), 0);
+    }
+
+    /** x0 at most 0, x0 at least 1, 0 at most 0: s0 = s1 is above 0, and row 2 has no part in that. */
+    private static RowSolver apart() {
+        RowSolver solver = new RowSolver();
+        solver.variables(2);
+        Problems.row(solver, 0, 0, 1, 0);
+        Problems.row(solver, 1, 1, 1, 0);
+        Problems.row(solver, 0, 0, 0, 0);
+        CHECK.due("an exchange", solver.solve(1), 1);
+        CHECK.due("that leaves the leaf open", solver.node(0, 0), 2);
+        return solver;
+    }
+
+    private static void conflictGivesWhatItNames() {
+        RowSolver solver = apart();
+        CHECK.due("named", solver.setMultiplier(0, 0, 0, 7, 3), 0);
+        CHECK.due("named", solver.setMultiplier(0, 0, 1, 7, 3), 0);
+        CHECK.due("not named", solver.setMultiplier(0, 0, 2, 4, 6), 0);
+        CHECK.hand("while it is open", solver, solver.multiplier(0, 0, 2), Check.ratio(2, 3));
+        CHECK.due("the conflict", solver.solve(20), 1);
+        CHECK.due("closed", solver.node(0, 0), 1);
+        CHECK.hand("given by the conflict", solver, solver.multiplier(0, 0, 0), Check.ratio(1, 1));
+        CHECK.hand("given by the conflict", solver, solver.multiplier(0, 0, 1), Check.ratio(-1, 1));
+        CHECK.hand("as it was set", solver, solver.multiplier(0, 0, 2), Check.ratio(2, 3));
+        CHECK.due("0 at most 0 does no harm", solver.judgeTree(), 0);
+        int[] sorts = {1, 2};
+        for (int sort : sorts) {
+            RowSolver bound = apart();
+            CHECK.due("a bound", bound.setMultiplier(0, sort, 1, 3 - 2 * sort, 1), 0);
+            bound.solve(20);
+            CHECK.hand("as it was set", bound, bound.multiplier(0, sort, 1), Check.ratio(3 - 2 * sort, 1));
+            CHECK.due("x1 has no bound", bound.judgeTree(), 1);
+            CHECK.due("as if never set", bound.setMultiplier(0, sort, 1, 0, 1), 0);
+            CHECK.due("good", bound.judgeTree(), 0);
+        }
+    }
+
+    /** A variable's two bounds have a multiplier each: the conflict names the one, the other stays. */
+    private static void otherBoundStays() {
+        RowSolver solver = Problems.half();
+        solver.solve(2);
+        CHECK.due("set", solver.setMultiplier(1, 2, 0, -5, 1), 0);
+        solver.solve(1);
+        CHECK.hand("its upper bound's by the conflict", solver, solver.multiplier(1, 1, 0), Check.ratio(1, 1));
+        CHECK.hand("its lower bound's as it was set", solver, solver.multiplier(1, 2, 0), Check.ratio(-5, 1));
+        CHECK.due("which is not there", solver.judgeTree(), 2);
+        CHECK.hand("the second side's are 0", solver, solver.multiplier(2, 2, 0), Check.ratio(0, 1));
+        CHECK.due("set", solver.setMultiplier(2, 1, 0, 5, 1), 0);
+        solver.solve(1);
+        CHECK.hand("its lower bound's by the conflict", solver, solver.multiplier(2, 2, 0), Check.ratio(-1, 1));
+        CHECK.hand("its upper bound's as it was set", solver, solver.multiplier(2, 1, 0), Check.ratio(5, 1));
+        CHECK.due("the first one", solver.judgeTree(), 2);
+        solver.setMultiplier(1, 2, 0, 0, 1);
+        CHECK.due("the second one", solver.judgeTree(), 3);
+        solver.setMultiplier(2, 1, 0, 0, 1);
+        CHECK.due("good", solver.judgeTree(), 0);
+    }
+
+    /** What was set of a leaf goes with it: a leaf that comes to be has 0s. */
+    private static void newLeavesHaveZeros() {
+        RowSolver solver = Problems.half();
+        for (int round = 0; round < 2; round++) {
+            solver.solve(1);
+            CHECK.hand("the first leaf", solver, solver.multiplier(0, 2, 0), Check.ratio(0, 1));
+            for (int sort = 0; sort < 3; sort++) {
+                CHECK.due("set", solver.setMultiplier(0, sort, 0, 9, 1), 0);
+            }
+            solver.solve(1);
+            CHECK.due("a split has none", solver.multiplier(0, 0, 0), Check.NO_NUMBER);
+            for (int sort = 0; sort < 3; sort++) {
+                CHECK.hand("the first side", solver, solver.multiplier(1, sort, 0), Check.ratio(0, 1));
+                CHECK.due("set", solver.setMultiplier(1, sort, 0, 9, 1), 0);
+            }
+            solver.solve(1);
+            for (int sort = 0; sort < 3; sort++) {
+                CHECK.hand("the second side", solver, solver.multiplier(2, sort, 0), Check.ratio(0, 1));
+                CHECK.due("set", solver.setMultiplier(2, sort, 0, 9, 1), 0);
+            }
+            solver.whole(0, true);
+        }
+        solver.solve(20);
         CHECK.due("good", solver.judgeTree(), 0);
     }
 
