@@ -18,6 +18,14 @@ final class Check {
         }
     }
 
+    void due(String what, String got, String want) {
+        checks++;
+        if (!got.equals(want)) {
+            wrong++;
+            System.out.println(name + ": " + what + " is " + got + ", due is " + want);
+        }
+    }
+
     /** The number at hand, whose sign was just answered. */
     void hand(String what, RowSolver solver, int sign, int[] number) {
         due(what + " sign", sign, number[0]);

@@ -1,3 +1,5 @@
+import java.util.List;
+
 /** Small problems whose steps are worked out by hand in the tests. */
 final class Problems {
     private Problems() {
@@ -8,6 +10,29 @@ final class Problems {
             solver.factor(x, factors[x]);
         }
         solver.row(kind, b);
+    }
+
+    /**
+     * A problem as text: a sign for each variable, W if it is whole, then each row: its factors, its kind as <=, >= or
+     * =, and its number, with blanks between them.
+     */
+    static RowSolver told(String wholes, String... rows) {
+        RowSolver solver = new RowSolver();
+        solver.variables(wholes.length());
+        for (String row : rows) {
+            String[] words = row.split(" ");
+            int n = words.length - 2;
+            for (int x = 0; x < n; x++) {
+                solver.factor(x, Integer.parseInt(words[x]));
+            }
+            solver.row(List.of("<=", ">=", "=").indexOf(words[n]), Integer.parseInt(words[n + 1]));
+        }
+        for (int x = 0; x < wholes.length(); x++) {
+            if (wholes.charAt(x) == 'W') {
+                solver.whole(x, true);
+            }
+        }
+        return solver;
     }
 
     /** 2 x0 = 1, x0 whole: an exchange, a split at 0, a conflict on either side. */

@@ -5,6 +5,7 @@ import java.util.Random;
 /** Runs of made-up calls: RowSolver and the plain Reference must answer the same. The seeds are fixed. */
 final class ReferenceTest {
     private static final int RUNS = Integer.getInteger("runs", 3000);
+    private static final int MOST_CALLS = 512;
     private static final int[] EDGES = {0, 1, -1, 2, 3, 9, 10, 11, 12, 20001, -4, 1000000, 1000001, -1000000, -1000001,
         1000000000, 1000000001, -1000000000, -1000000001, Integer.MAX_VALUE, Integer.MIN_VALUE};
 
@@ -62,13 +63,13 @@ final class ReferenceTest {
             junk(below(20));
         }
         int problems = 1 + below(2);
-        for (int p = 0; p < problems && !wrong; p++) {
+        for (int p = 0; p < problems && !wrong && calls.size() < MOST_CALLS / 2; p++) {
             tell(run % 8);
             int left = 60 + below(60);
             if (below(3) == 0) {
                 solve(20000);
             }
-            while (left-- > 0 && calls.size() < 490 && !wrong) {
+            while (left-- > 0 && calls.size() < MOST_CALLS - 40 && !wrong) {
                 any();
             }
         }

@@ -13,10 +13,11 @@ final class RoomTest {
             System.exit(0);
         }
         run(2);
-        long made = run(500);
+        long made = run(480);
         System.out.println("RoomTest: " + made + " bytes by the dearest run");
         CHECK.due("at most", Math.max(made, MOST_BYTES), MOST_BYTES);
         CHECK.due("a new object is small", Math.max(newObject(), 60_000), 60_000);
+        lastCall();
         CHECK.end();
     }
 
@@ -28,6 +29,20 @@ final class RoomTest {
         long before = made();
         new RowSolver();
         return made() - before;
+    }
+
+    /** An object is used for 512 calls; the last of them is answered as the first ones. */
+    private static void lastCall() {
+        RowSolver solver = Problems.half();
+        for (int call = 5; call <= 511; call++) {
+            if (call % 7 == 0) {
+                solver.whole(0, true);
+            } else {
+                solver.solve(call % 7);
+            }
+        }
+        // Call 511 told that x0 is whole: nothing is begun.
+        CHECK.due("call 512", solver.solve(20_000), 4);
     }
 
     /** As many splits as there can be, solved again and again, judged and told. */

@@ -3,38 +3,174 @@ final class SolvingTest {
     private static final Check CHECK = new Check("SolvingTest");
 
     public static void main(String[] args) {
-        wrongCalls();
+        solveFromOneToMost();
+        solveRefused();
+        solveWithoutVariables();
+        solveBegins();
+        solveUpToSoMany();
+        solveInParts();
+        solveWhenItHasEnded();
+        stateOfEachNumber();
+        stateRefused();
+        basicOfEachPlace();
+        basicRefused();
+        basicAsItIsNow();
         withoutRows();
         halfStepByStep();
         wedgeStepByStep();
         zeroRow();
         lowestPlacesFirst();
-        deepByOpenSplits();
-        deepBySplitsMade();
-        deepByFarSplits();
+        openSplits();
+        satWithOpenSplits();
+        splitsMade();
+        lastSplitIsEnough();
+        farSplits();
+        fartherSplits();
+        deepMakesNoSplit();
         startsAnew();
         CHECK.end();
     }
 
-    private static void wrongCalls() {
-        RowSolver solver = Problems.open();
+    private static void solveFromOneToMost() {
+        RowSolver one = Problems.open();
+        CHECK.due("solve(1)", one.solve(1), 1);
+        RowSolver most = Problems.open();
+        CHECK.due("solve(20000)", most.solve(20_000), 3);
+    }
+
+    private static void solveRefused() {
         int[] wrong = {0, -1, 20_001, Integer.MAX_VALUE, Integer.MIN_VALUE};
         for (int n : wrong) {
+            RowSolver solver = Problems.open();
             CHECK.due("solve(" + n + ")", solver.solve(n), Check.BAD);
+            CHECK.states("not begun by that", solver, 0, 0, 0, 0, 0, 0, 3, 2, 0);
+            solver.solve(1);
+            CHECK.due("solve(" + n + ") while it goes on", solver.solve(n), Check.BAD);
+            CHECK.states("no step", solver, 1, 1, 1, 0, 0, 0, 3, 2, 1);
+            solver.solve(20);
+            CHECK.due("solve(" + n + ") when it has ended", solver.solve(n), Check.BAD);
+            CHECK.states("no step", solver, 2, 3, 2, 0, 0, 0, 3, 2, 1);
         }
-        CHECK.due("not begun by that", solver.state(0), 0);
-        CHECK.due("basic before", solver.basic(0), Check.BAD);
-        CHECK.due("solve(20000)", solver.solve(20_000), 3);
-        CHECK.due("solve when it has ended", solver.solve(20_000), 0);
-        CHECK.due("solve(0) when it has ended", solver.solve(0), Check.BAD);
-        int[] places = {-1, 5, 22, Integer.MAX_VALUE, Integer.MIN_VALUE};
-        for (int place : places) {
+    }
+
+    private static void solveWithoutVariables() {
+        RowSolver solver = new RowSolver();
+        CHECK.due("solve(1)", solver.solve(1), Check.BAD);
+        CHECK.due("solve(20000)", solver.solve(20_000), Check.BAD);
+        CHECK.states("not begun", solver, 0, 0, 0, 0, 0, 0, 0, 0, 0);
+        solver.variables(1);
+        CHECK.due("with one", solver.solve(1), 1);
+    }
+
+    private static void solveBegins() {
+        RowSolver solver = Problems.half();
+        CHECK.due("not begun", solver.state(0), 0);
+        solver.solve(1);
+        CHECK.due("it goes on", solver.state(0), 1);
+        CHECK.due("with its first node", solver.state(8), 1);
+    }
+
+    private static void solveUpToSoMany() {
+        int[] due = {1, 2, 3, 4, 4, 4};
+        for (int n = 1; n <= due.length; n++) {
+            RowSolver solver = Problems.half();
+            CHECK.due("solve(" + n + ") of four steps", solver.solve(n), due[n - 1]);
+            CHECK.due("steps", solver.state(1), due[n - 1]);
+            CHECK.due("how it is", solver.state(0), n < 4 ? 1 : 3);
+            CHECK.due("the rest", solver.solve(20_000), 4 - due[n - 1]);
+        }
+    }
+
+    /** However the steps are parted, they are the same. */
+    private static void solveInParts() {
+        int[][] parts = {{1, 1, 1, 1, 1, 1, 1}, {3, 4}, {6, 1}, {2, 5}, {7}};
+        for (int[] part : parts) {
+            RowSolver solver = Problems.told("WW", "-3 -1 <= 3", "2 -2 <= -1", "-2 -4 = 1");
+            for (int n : part) {
+                CHECK.due("solve(" + n + ")", solver.solve(n), n);
+            }
+            CHECK.due("seven steps", Show.states(solver), "1 7 4 1 2 2 3 2 4");
+            CHECK.due("and five", solver.solve(20_000), 5);
+            CHECK.due("twelve steps", Show.states(solver), "3 12 5 4 3 0 3 2 7");
+            CHECK.due("GOOD", solver.judgeTree(), 0);
+        }
+    }
+
+    private static void solveWhenItHasEnded() {
+        RowSolver[] ended = {Problems.open(), Problems.wedge(), Problems.far(1, 3)};
+        for (int k = 0; k < ended.length; k++) {
+            RowSolver solver = ended[k];
+            solver.solve(20_000);
+            CHECK.due("it has ended", solver.state(0), 2 + k);
+            String states = Show.states(solver);
+            String places = Show.places(solver);
+            CHECK.due("solve(1)", solver.solve(1), 0);
+            CHECK.due("solve(20000)", solver.solve(20_000), 0);
+            CHECK.due("it stays", Show.states(solver), states);
+            CHECK.due("it stays", Show.places(solver), places);
+        }
+    }
+
+    private static void stateOfEachNumber() {
+        RowSolver solver = Problems.told("WW", "-3 -1 <= 3", "2 -2 <= -1", "-2 -4 = 1");
+        CHECK.states("not begun", solver, 0, 0, 0, 0, 0, 0, 3, 2, 0);
+        String[] due = {"1 1 1 0 0 0 3 2 1", "1 2 1 0 1 1 3 2 2", "1 3 2 0 1 1 3 2 2", "1 4 3 0 1 1 3 2 2",
+            "1 5 4 0 1 1 3 2 2", "1 6 4 0 2 2 3 2 3", "1 7 4 1 2 2 3 2 4", "1 8 5 1 2 2 3 2 4", "1 9 5 1 3 3 3 2 5",
+            "1 10 5 2 3 3 3 2 6", "1 11 5 3 3 1 3 2 7", "3 12 5 4 3 0 3 2 7"};
+        for (int step = 1; step <= due.length; step++) {
+            solver.solve(1);
+            CHECK.due("step " + step, Show.states(solver), due[step - 1]);
+        }
+        RowSolver sat = Problems.open();
+        sat.solve(20);
+        CHECK.due("SAT", sat.state(0), 2);
+        RowSolver deep = Problems.far(1, 3);
+        deep.solve(20);
+        CHECK.due("DEEP", deep.state(0), 4);
+    }
+
+    private static void stateRefused() {
+        int[] wrong = {-1, 9, 10, Integer.MAX_VALUE, Integer.MIN_VALUE};
+        RowSolver[] all = {new RowSolver(), Problems.open(), Problems.half()};
+        all[2].solve(20);
+        for (RowSolver solver : all) {
+            for (int what : wrong) {
+                CHECK.due("state(" + what + ")", solver.state(what), Check.BAD);
+            }
+        }
+    }
+
+    private static void basicOfEachPlace() {
+        RowSolver solver = Problems.open();
+        solver.solve(20);
+        basics("SAT", solver, 1, 1, 0, 1, 0);
+    }
+
+    private static void basicRefused() {
+        RowSolver solver = Problems.open();
+        for (int place = 0; place < 5; place++) {
+            CHECK.due("not begun", solver.basic(place), Check.BAD);
+        }
+        solver.solve(1);
+        int[] wrong = {-1, 5, 6, 22, Integer.MAX_VALUE, Integer.MIN_VALUE};
+        for (int place : wrong) {
             CHECK.due("basic(" + place + ")", solver.basic(place), Check.BAD);
         }
-        int[] whats = {-1, 9, Integer.MAX_VALUE, Integer.MIN_VALUE};
-        for (int what : whats) {
-            CHECK.due("state(" + what + ")", solver.state(what), Check.BAD);
-        }
+        CHECK.due("the last one", solver.basic(4), 1);
+        solver.whole(0, false);
+        CHECK.due("begun no more", solver.basic(4), Check.BAD);
+    }
+
+    private static void basicAsItIsNow() {
+        RowSolver solver = Problems.told("W", "-2 >= 1", "2 >= -1");
+        solver.solve(1);
+        basics("an exchange", solver, 1, 0, 1);
+        solver.solve(1);
+        basics("a split", solver, 1, 0, 1);
+        solver.solve(1);
+        basics("an exchange back", solver, 0, 1, 1);
+        solver.solve(2);
+        basics("UNSAT", solver, 0, 1, 1);
     }
 
     private static void withoutRows() {
@@ -117,36 +253,65 @@ final class SolvingTest {
         CHECK.states("SAT", solver, 2, 3, 2, 0, 0, 0, 3, 3, 1);
     }
 
-    private static void deepByOpenSplits() {
-        RowSolver solver = new RowSolver();
-        solver.variables(2);
-        Problems.row(solver, 2, 1, 2, 2);
-        solver.whole(0, true);
-        solver.whole(1, true);
-        CHECK.due("24 open", solver.solve(20_000), 62);
-        CHECK.states("24 open", solver, 4, 62, 25, 12, 24, 24, 1, 2, 37);
-        CHECK.due("stays", solver.solve(1), 0);
+    /** With 23 open one more split is made, with 24 none; they may be on their first sides, on either, on their second. */
+    private static void openSplits() {
+        String[][] problems = {{"2 -2 = -1"}, {"2 2 = 1"}, {"0 1 >= 0", "-2 2 = 1"}};
+        String[][] due = {{"1 47 24 0 23 23 1 2 24", "1 48 24 0 24 24 1 2 25", "1 49 25 0 24 24 1 2 25", "4 50 25 0 24 24 1 2 25"},
+            {"1 58 24 11 23 23 1 2 35", "1 59 24 11 24 24 1 2 36", "1 61 25 12 24 24 1 2 37", "4 62 25 12 24 24 1 2 37"},
+            {"1 70 24 23 23 23 2 2 47", "1 71 24 23 24 24 2 2 48", "1 73 25 24 24 24 2 2 49", "4 74 25 24 24 24 2 2 49"}};
+        for (int k = 0; k < problems.length; k++) {
+            RowSolver solver = Problems.told("WW", problems[k]);
+            solver.solve(Integer.parseInt(due[k][0].split(" ")[1]));
+            CHECK.due("23 open", Show.states(solver), due[k][0]);
+            solver.solve(1);
+            CHECK.due("24 open", Show.states(solver), due[k][1]);
+            solver.solve(k == 0 ? 1 : 2);
+            CHECK.due("24 open, and it goes on", Show.states(solver), due[k][2]);
+            CHECK.due("the last step", solver.solve(20_000), 1);
+            CHECK.due("DEEP", Show.states(solver), due[k][3]);
+        }
     }
 
-    private static void deepBySplitsMade() {
+    /** 24 splits are open, and a whole value needs no other one. */
+    private static void satWithOpenSplits() {
+        RowSolver solver = Problems.told("WW", "-2 -2 <= -7", "1 0 >= -8");
+        solver.solve(20_000);
+        CHECK.due("SAT with 24 open", Show.states(solver), "2 63 26 12 24 24 2 2 37");
+        CHECK.due("its values", Show.places(solver), "x0*=-8 x1=12 s0*=-8 s1=-8");
+        CHECK.due("found", solver.witness(), 0);
+        CHECK.due("GOOD", solver.judgeWitness(), 0);
+    }
+
+    private static void splitsMade() {
         RowSolver solver = Problems.boxed(-17, new int[] {-6, 6, -10}, new int[] {12, 5, 9});
-        CHECK.due("150 made", solver.solve(20_000), 459);
-        CHECK.states("150 made", solver, 4, 459, 168, 140, 150, 18, 7, 3, 291);
-        CHECK.due("stays", solver.solve(1), 0);
+        solver.solve(456);
+        CHECK.states("149 made", solver, 1, 456, 167, 140, 149, 17, 7, 3, 290);
+        solver.solve(1);
+        CHECK.states("150 made", solver, 1, 457, 167, 140, 150, 18, 7, 3, 291);
+        solver.solve(1);
+        CHECK.states("150 made, and it goes on", solver, 1, 458, 168, 140, 150, 18, 7, 3, 291);
+        CHECK.due("the last step", solver.solve(20_000), 1);
+        CHECK.states("DEEP", solver, 4, 459, 168, 140, 150, 18, 7, 3, 291);
         CHECK.due("the last leaf is open", solver.node(290, 0), 2);
         CHECK.due("there is none behind it", solver.node(291, 0), Check.NO_NODE);
+    }
+
+    private static void lastSplitIsEnough() {
         RowSolver last = Problems.boxed(5, new int[] {-2, -6, 4}, new int[] {10, 4, 3});
         for (int round = 0; round < 3; round++) {
             CHECK.due("150 are enough", last.solve(20_000), 502);
             CHECK.states("150 are enough", last, 3, 502, 201, 151, 150, 0, 7, 3, 301);
             CHECK.due("good", last.judgeTree(), 0);
             CHECK.due("the last node", last.node(300, 0), 1);
+            CHECK.due("there is none behind it", last.node(301, 0), Check.NO_NODE);
             last.whole(0, true);
         }
     }
 
-    private static void deepByFarSplits() {
-        int[][] cases = {{1, 1, 3}, {1, 3, 4}, {-1, 1, 3}, {-1, -1, 4}, {1, -1, 3}, {1, 1_000_000 - 1, 4}};
+    /** f is 10^18, 10^18 + 1, - 10^18, - 10^18 - 1 and so on. */
+    private static void farSplits() {
+        int[][] cases = {{1, 1, 3}, {1, 3, 4}, {-1, 1, 3}, {-1, -1, 4}, {1, -1, 3}, {1, 1_000_000 - 1, 4}, {-1, 3, 3},
+            {-1, -3, 4}};
         for (int[] one : cases) {
             String what = "far(" + one[0] + ", " + one[1] + ")";
             RowSolver solver = Problems.far(one[0], one[1]);
@@ -157,12 +322,26 @@ final class SolvingTest {
             CHECK.due(what + " tree", solver.judgeTree(), one[2] == 3 ? 0 : 1);
             CHECK.due(what + " f is cut", solver.node(0, 2), one[2] == 3 ? one[0] * 2_000_000_000 : Check.NONE);
         }
+    }
+
+    private static void fartherSplits() {
         for (int end = 3; end <= 9; end++) {
             RowSolver solver = farther(end);
             solver.solve(20_000);
             CHECK.due("10^" + 6 * end + " + 1/2", solver.state(0), end == 3 ? 3 : 4);
             CHECK.due("10^" + 6 * end + " + 1/2 splits", solver.state(4), end == 3 ? 1 : 0);
         }
+    }
+
+    /** The value is as it was, no bound is there, the leaf is open. */
+    private static void deepMakesNoSplit() {
+        RowSolver solver = Problems.far(-1, -1);
+        solver.solve(4);
+        CHECK.states("before", solver, 1, 4, 4, 0, 0, 0, 4, 4, 1);
+        CHECK.due("DEEP", solver.solve(20_000), 1);
+        CHECK.states("DEEP", solver, 4, 5, 4, 0, 0, 0, 4, 4, 1);
+        CHECK.due("its leaf", Show.node(solver, 0), "2 none none none none none");
+        CHECK.due("its value", Show.hand(solver, solver.value(3), 3), "-2000000000000000001/2");
     }
 
     /** Each variable is 10^6 times the one before it, the last one 1/2 more, and whole. */

@@ -2,16 +2,36 @@
 final class TreeTest {
     private static final Check CHECK = new Check("TreeTest");
 
+    private static final int MOST = 1_000_000_000;
+    private static final int[] TOO_WIDE = {MOST + 1, -MOST - 1, Integer.MAX_VALUE, Integer.MIN_VALUE};
+
     public static void main(String[] args) {
         nodes();
-        wrongNodes();
+        nodeOfNoTree();
+        nodeOfNoNumber();
+        nodeOfNothingElse();
+        nodeTellsFCut();
+        nodeTellsFAsItWasSet();
+        nodeWithFLikeNone();
         multipliers();
+        multiplierOfTheLastOnes();
+        multiplierOfASplit();
         wrongMultipliers();
+        multiplierNotBegun();
         setMultiplier();
+        setMultiplierBounds();
+        setMultiplierOfOneAlone();
+        setMultiplierOfOpenAndClosed();
         wrongSetMultiplier();
         setSplit();
+        setSplitBounds();
+        setSplitRefused();
+        setSplitOfOneAlone();
+        setSplitOfAFarOne();
         solvingGoesOnByWhatItFound();
         judgeTree();
+        judgeNoTree();
+        judgeFirstOfAll();
         wrongBounds();
         judgeUnfinishedTree();
         conflictGivesWhatItNames();
@@ -42,21 +62,78 @@ final class TreeTest {
         node(solver, 2, 1, Check.NONE, Check.NONE, Check.NONE, Check.NONE, 0);
     }
 
-    private static void wrongNodes() {
+    private static void nodeOfNoTree() {
         RowSolver solver = Problems.half();
         CHECK.due("not begun", solver.node(0, 0), Check.NO_NODE);
-        solver.solve(20);
-        int[] wrong = {-1, 3, 301, Integer.MAX_VALUE, Integer.MIN_VALUE};
-        for (int k : wrong) {
-            CHECK.due("node(" + k + ", 0)", solver.node(k, 0), Check.NO_NODE);
-        }
-        int[] whats = {-1, 6, Integer.MAX_VALUE, Integer.MIN_VALUE};
-        for (int what : whats) {
-            CHECK.due("node(0, " + what + ")", solver.node(0, what), Check.NO_NODE);
-            CHECK.due("node(1, " + what + ")", solver.node(1, what), Check.NO_NODE);
-        }
+        solver.solve(1);
+        CHECK.due("begun", solver.node(0, 0), 2);
         solver.row(0, 0);
         CHECK.due("begun no more", solver.node(0, 0), Check.NO_NODE);
+    }
+
+    private static void nodeOfNoNumber() {
+        RowSolver solver = Problems.half();
+        solver.solve(1);
+        CHECK.due("one node", solver.node(1, 0), Check.NO_NODE);
+        solver.solve(20);
+        CHECK.due("the last of three", solver.node(2, 0), 1);
+        int[] wrong = {-1, 3, 300, 301, 302, Integer.MAX_VALUE, Integer.MIN_VALUE};
+        for (int k : wrong) {
+            for (int what = -1; what <= 6; what++) {
+                CHECK.due("node(" + k + ", " + what + ")", solver.node(k, what), Check.NO_NODE);
+            }
+        }
+    }
+
+    private static void nodeOfNothingElse() {
+        RowSolver solver = Problems.half();
+        solver.solve(3);
+        int[] whats = {-1, 6, Integer.MAX_VALUE, Integer.MIN_VALUE};
+        for (int what : whats) {
+            for (int k = 0; k < 3; k++) {
+                CHECK.due("node(" + k + ", " + what + ")", solver.node(k, what), Check.NO_NODE);
+            }
+        }
+    }
+
+    /** x1 = (sign * 4 * 10^9 + b) / 2. */
+    private static RowSolver wide(int sign, int b) {
+        return Problems.told("-W", "1 0 = " + sign * 4000, "-1000000 2 = " + b);
+    }
+
+    private static void nodeTellsFCut() {
+        int[][] cases = {{1, -3, 1_999_999_998}, {1, -1, 1_999_999_999}, {1, 1, 2_000_000_000}, {1, 3, 2_000_000_000},
+            {1, 999_999, 2_000_000_000}, {-1, 5, -1_999_999_998}, {-1, 3, -1_999_999_999}, {-1, 1, -2_000_000_000},
+            {-1, -1, -2_000_000_000}, {-1, -3, -2_000_000_000}};
+        for (int[] one : cases) {
+            RowSolver solver = wide(one[0], one[1]);
+            solver.solve(20_000);
+            String what = "(" + one[0] * 4 + " * 10^9 + " + one[1] + ") / 2";
+            CHECK.due(what, solver.node(0, 2), one[2]);
+            CHECK.due(what + " is UNSAT", solver.state(0), 3);
+            CHECK.due(what + " is judged by f itself", solver.judgeTree(), 0);
+        }
+    }
+
+    private static void nodeTellsFAsItWasSet() {
+        RowSolver solver = wide(1, 999_999);
+        solver.solve(20_000);
+        int[] set = {MOST, -MOST, 0, -2, 7};
+        for (int f : set) {
+            CHECK.due("set", solver.setSplit(0, f), 0);
+            CHECK.due("told", solver.node(0, 2), f);
+        }
+    }
+
+    /** f can be - 2, which is NONE for what there is not: node's sort tells which it is. */
+    private static void nodeWithFLikeNone() {
+        RowSolver solver = Problems.told("W", "2 = -3");
+        solver.solve(20);
+        CHECK.due("a split", solver.node(0, 0), 0);
+        CHECK.due("f", solver.node(0, 2), -2);
+        CHECK.due("its first side", solver.node(0, 3), 1);
+        CHECK.due("its second side", solver.node(0, 4), 2);
+        CHECK.due("GOOD", solver.judgeTree(), 0);
     }
 
     private static void multipliers() {
@@ -76,6 +153,57 @@ final class TreeTest {
         CHECK.hand("row above x0's lower bound", half, half.multiplier(2, 0, 0), Check.ratio(1, 2));
         CHECK.hand("x0's lower bound", half, half.multiplier(2, 2, 0), Check.ratio(-1, 1));
         CHECK.hand("no upper bound there", half, half.multiplier(2, 1, 0), Check.ratio(0, 1));
+    }
+
+    private static void multiplierOfTheLastOnes() {
+        RowSolver solver = new RowSolver();
+        solver.variables(10);
+        solver.row(1, 1);
+        for (int i = 1; i < 12; i++) {
+            solver.row(2, 0);
+        }
+        solver.solve(1);
+        CHECK.hand("row 0", solver, solver.multiplier(0, 0, 0), Check.ratio(-1, 1));
+        CHECK.hand("row 11", solver, solver.multiplier(0, 0, 11), Check.ratio(0, 1));
+        CHECK.hand("x9's upper bound", solver, solver.multiplier(0, 1, 9), Check.ratio(0, 1));
+        CHECK.hand("x9's lower bound", solver, solver.multiplier(0, 2, 9), Check.ratio(0, 1));
+        int[][] wrong = {{0, 12}, {0, 13}, {1, 10}, {1, 11}, {2, 10}, {2, 11}, {2, 12}, {3, 0}, {-1, 0}};
+        for (int[] one : wrong) {
+            CHECK.due("multiplier(0, " + one[0] + ", " + one[1] + ")", solver.multiplier(0, one[0], one[1]), Check.NO_NUMBER);
+            CHECK.due("setMultiplier", solver.setMultiplier(0, one[0], one[1], 1, 1), Check.BAD);
+        }
+        int[][] last = {{0, 11, 1}, {1, 9, 2}, {2, 9, 3}};
+        for (int[] one : last) {
+            CHECK.due("setMultiplier(0, " + one[0] + ", " + one[1] + ", ..)",
+                    solver.setMultiplier(0, one[0], one[1], one[2], 7), 0);
+        }
+        for (int[] one : last) {
+            CHECK.hand("as it was set", solver, solver.multiplier(0, one[0], one[1]), Check.ratio(one[2], 7));
+        }
+        CHECK.hand("row 0", solver, solver.multiplier(0, 0, 0), Check.ratio(-1, 1));
+    }
+
+    private static void multiplierOfASplit() {
+        RowSolver solver = Problems.half();
+        solver.solve(1);
+        CHECK.due("a leaf", solver.multiplier(0, 0, 0), 0);
+        solver.solve(1);
+        for (int sort = 0; sort < 3; sort++) {
+            CHECK.due("a split now", solver.multiplier(0, sort, 0), Check.NO_NUMBER);
+            CHECK.due("a split now", solver.setMultiplier(0, sort, 0, 1, 1), Check.BAD);
+        }
+        CHECK.hand("what was at hand stays", solver, 0, Check.ratio(0, 1));
+    }
+
+    private static void multiplierNotBegun() {
+        RowSolver solver = Problems.half();
+        CHECK.due("not begun", solver.multiplier(0, 0, 0), Check.NO_NUMBER);
+        CHECK.due("not begun", solver.setMultiplier(0, 0, 0, 1, 1), Check.BAD);
+        solver.solve(20);
+        CHECK.due("UNSAT", solver.multiplier(1, 0, 0), -1);
+        solver.whole(0, true);
+        CHECK.due("begun no more", solver.multiplier(1, 0, 0), Check.NO_NUMBER);
+        CHECK.due("begun no more", solver.setMultiplier(1, 0, 0, 1, 1), Check.BAD);
     }
 
     private static void wrongMultipliers() {
@@ -114,6 +242,54 @@ final class TreeTest {
         CHECK.due("the node's sort stays", solver.node(1, 0), 1);
     }
 
+    private static void setMultiplierBounds() {
+        int[][] cases = {{MOST, 1}, {-MOST, 1}, {1, MOST}, {-1, MOST}, {MOST, MOST}, {-MOST, MOST}, {0, MOST}, {0, 1},
+            {MOST, MOST - 1}, {MOST - 1, MOST}};
+        for (int[] one : cases) {
+            RowSolver solver = Problems.half();
+            solver.solve(20);
+            for (int sort = 0; sort < 3; sort++) {
+                String what = one[0] + " / " + one[1];
+                CHECK.due(what, solver.setMultiplier(1, sort, 0, one[0], one[1]), 0);
+                int above = one[1] == MOST && Math.abs(one[0]) == MOST ? one[0] / MOST : one[0];
+                int below = one[0] == 0 || Math.abs(one[0]) == one[1] ? 1 : one[1];
+                String due = below == 1 ? "" + above : above + "/" + below;
+                CHECK.due(what, Show.hand(solver, solver.multiplier(1, sort, 0), 2), due);
+            }
+        }
+    }
+
+    private static void setMultiplierOfOneAlone() {
+        RowSolver solver = Problems.told("W-", "2 0 = 1", "0 1 = 0");
+        solver.solve(20);
+        CHECK.due("leaf 1", Show.leaf(solver, 1), "s0=-1/2 u0=1");
+        CHECK.due("leaf 2", Show.leaf(solver, 2), "s0=1/2 l0=-1");
+        String[] due = {"s0=-1/2 s1=3 u0=1", "s0=-1/2 s1=3 u0=1 u1=4", "s0=-1/2 s1=3 u0=1 u1=4 l1=5"};
+        for (int sort = 0; sort < 3; sort++) {
+            solver.setMultiplier(1, sort, 1, 3 + sort, 1);
+            CHECK.due("leaf 1", Show.leaf(solver, 1), due[sort]);
+            CHECK.due("leaf 2", Show.leaf(solver, 2), "s0=1/2 l0=-1");
+        }
+        solver.setMultiplier(2, 2, 0, 0, 5);
+        CHECK.due("leaf 1", Show.leaf(solver, 1), due[2]);
+        CHECK.due("leaf 2", Show.leaf(solver, 2), "s0=1/2");
+    }
+
+    private static void setMultiplierOfOpenAndClosed() {
+        RowSolver solver = Problems.half();
+        solver.solve(3);
+        CHECK.due("closed", solver.node(1, 0), 1);
+        CHECK.due("set", solver.setMultiplier(1, 2, 0, 8, 9), 0);
+        CHECK.due("open", solver.node(2, 0), 2);
+        CHECK.due("set", solver.setMultiplier(2, 1, 0, -8, 9), 0);
+        CHECK.due("closed", Show.leaf(solver, 1), "s0=-1/2 u0=1 l0=8/9");
+        CHECK.due("open", Show.leaf(solver, 2), "u0=-8/9");
+        CHECK.due("closed still", solver.node(1, 0), 1);
+        CHECK.due("open still", solver.node(2, 0), 2);
+        CHECK.due("it goes on as before", solver.solve(20), 1);
+        CHECK.states("UNSAT", solver, 3, 4, 1, 2, 1, 0, 1, 1, 3);
+    }
+
     private static void wrongSetMultiplier() {
         RowSolver solver = Problems.half();
         CHECK.due("not begun", solver.setMultiplier(0, 0, 0, 1, 1), Check.BAD);
@@ -129,31 +305,77 @@ final class TreeTest {
 
     private static void setSplit() {
         RowSolver solver = Problems.half();
-        CHECK.due("not begun", solver.setSplit(0, 0), Check.BAD);
-        solver.solve(1);
-        CHECK.due("a leaf", solver.setSplit(0, 0), Check.BAD);
         solver.solve(20);
-        int[] wrong = {1_000_000_001, -1_000_000_001, Integer.MAX_VALUE, Integer.MIN_VALUE};
-        for (int f : wrong) {
-            CHECK.due("setSplit(0, " + f + ")", solver.setSplit(0, f), Check.BAD);
-        }
-        int[] nodes = {-1, 1, 2, 3, Integer.MAX_VALUE, Integer.MIN_VALUE};
-        for (int k : nodes) {
-            CHECK.due("setSplit(" + k + ", 0)", solver.setSplit(k, 0), Check.BAD);
-        }
-        CHECK.due("nothing was changed", solver.judgeTree(), 0);
         CHECK.due("set", solver.setSplit(0, 5), 0);
         CHECK.due("told", solver.node(0, 2), 5);
         CHECK.due("the first side is - 1/2 + 5", solver.judgeTree(), 2);
         CHECK.due("set", solver.setSplit(0, -3), 0);
         CHECK.due("told", solver.node(0, 2), -3);
         CHECK.due("the second side is 1/2 + 2", solver.judgeTree(), 3);
-        CHECK.due("edge", solver.setSplit(0, 1_000_000_000), 0);
-        CHECK.due("told", solver.node(0, 2), 1_000_000_000);
-        CHECK.due("edge", solver.setSplit(0, -1_000_000_000), 0);
-        CHECK.due("told", solver.node(0, 2), -1_000_000_000);
         CHECK.due("as it was", solver.setSplit(0, 0), 0);
         CHECK.due("good", solver.judgeTree(), 0);
+        CHECK.due("all else stays", Show.node(solver, 0), "0 0 0 1 2 none");
+    }
+
+    private static void setSplitBounds() {
+        RowSolver solver = Problems.half();
+        solver.solve(20);
+        CHECK.due("most", solver.setSplit(0, MOST), 0);
+        CHECK.due("told", solver.node(0, 2), MOST);
+        CHECK.due("the first side", solver.judgeTree(), 2);
+        CHECK.due("least", solver.setSplit(0, -MOST), 0);
+        CHECK.due("told", solver.node(0, 2), -MOST);
+        CHECK.due("the second side", solver.judgeTree(), 3);
+        for (int f : TOO_WIDE) {
+            CHECK.due("setSplit(0, " + f + ")", solver.setSplit(0, f), Check.BAD);
+            CHECK.due("told as it was", solver.node(0, 2), -MOST);
+        }
+    }
+
+    private static void setSplitRefused() {
+        RowSolver solver = Problems.half();
+        CHECK.due("not begun", solver.setSplit(0, 0), Check.BAD);
+        solver.solve(1);
+        CHECK.due("an open leaf", solver.setSplit(0, 0), Check.BAD);
+        CHECK.due("an open leaf", Show.node(solver, 0), "2 none none none none none");
+        solver.solve(20);
+        int[] nodes = {-1, 1, 2, 3, 301, Integer.MAX_VALUE, Integer.MIN_VALUE};
+        for (int k : nodes) {
+            CHECK.due("setSplit(" + k + ", 5)", solver.setSplit(k, 5), Check.BAD);
+        }
+        CHECK.due("a leaf", Show.node(solver, 1), "1 none none none none 0");
+        CHECK.due("nothing was changed", solver.node(0, 2), 0);
+        CHECK.due("nothing was changed", solver.judgeTree(), 0);
+        solver.row(0, 0);
+        CHECK.due("begun no more", solver.setSplit(0, 0), Check.BAD);
+    }
+
+    private static void setSplitOfOneAlone() {
+        RowSolver solver = Problems.told("WW", "-3 -1 <= 3", "2 -2 <= -1", "-2 -4 = 1");
+        solver.solve(20);
+        int[] splits = {0, 1, 3};
+        int[] found = {-1, -2, 0};
+        for (int k = 0; k < splits.length; k++) {
+            CHECK.due("set", solver.setSplit(splits[k], 40 + k), 0);
+            for (int other = 0; other < splits.length; other++) {
+                CHECK.due("node " + splits[other], solver.node(splits[other], 2), other == k ? 40 + k : found[other]);
+            }
+            solver.setSplit(splits[k], found[k]);
+        }
+        CHECK.due("GOOD", solver.judgeTree(), 0);
+    }
+
+    /** f is beyond what can be told and set: once it is another one, it can't be set back. */
+    private static void setSplitOfAFarOne() {
+        RowSolver solver = Problems.far(1, 1);
+        solver.solve(20);
+        CHECK.due("GOOD", solver.judgeTree(), 0);
+        CHECK.due("told", solver.node(0, 2), 2_000_000_000);
+        CHECK.due("what is told is too wide", solver.setSplit(0, 2_000_000_000), Check.BAD);
+        CHECK.due("GOOD still", solver.judgeTree(), 0);
+        CHECK.due("set", solver.setSplit(0, MOST), 0);
+        CHECK.due("told", solver.node(0, 2), MOST);
+        CHECK.due("the second side is not GOOD", solver.judgeTree(), 3);
     }
 
     private static void solvingGoesOnByWhatItFound() {
@@ -191,6 +413,41 @@ final class TreeTest {
         both.setMultiplier(1, 0, 0, 9, 1);
         CHECK.due("the first one that is not good", both.judgeTree(), 2);
         wrongSigns();
+    }
+
+    private static void judgeNoTree() {
+        RowSolver solver = new RowSolver();
+        CHECK.due("new", solver.judgeTree(), Check.BAD);
+        solver.variables(1);
+        CHECK.due("variables", solver.judgeTree(), Check.BAD);
+        solver.row(1, 1);
+        CHECK.due("a row", solver.judgeTree(), Check.BAD);
+        solver.solve(1);
+        CHECK.due("UNSAT", solver.judgeTree(), 0);
+        solver.variables(1);
+        CHECK.due("begun no more", solver.judgeTree(), Check.BAD);
+    }
+
+    /** Each leaf alone, then together with all behind it; the last node of the largest tree too. */
+    private static void judgeFirstOfAll() {
+        int[] leaves = {2, 4, 5, 6};
+        for (int k = 0; k < leaves.length; k++) {
+            RowSolver solver = Problems.told("WW", "-3 -1 <= 3", "2 -2 <= -1", "-2 -4 = 1");
+            solver.solve(20);
+            for (int other = leaves.length - 1; other >= k; other--) {
+                solver.setMultiplier(leaves[other], 0, 1, 1, 7);
+                CHECK.due("leaf " + leaves[other] + " and those behind", solver.judgeTree(), 1 + leaves[other]);
+                if (other > k && k % 2 == 0) {
+                    solver.setMultiplier(leaves[other], 0, 1, leaves[other] == 6 ? 1 : 0, 1);
+                    CHECK.due("as it was", solver.judgeTree(), 0);
+                }
+            }
+        }
+        RowSolver largest = Problems.boxed(5, new int[] {-2, -6, 4}, new int[] {10, 4, 3});
+        largest.solve(20_000);
+        CHECK.due("GOOD", largest.judgeTree(), 0);
+        CHECK.due("its last node", largest.setMultiplier(300, 0, 1, 1, MOST), 0);
+        CHECK.due("its last node", largest.judgeTree(), 301);
     }
 
     /** x0 at most 1 and at least 0: with turned signs it would be a conflict. */
