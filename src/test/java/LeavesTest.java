@@ -10,6 +10,7 @@ final class LeavesTest {
         conflictsOfVariables();
         oneMultiplierForBothBounds();
         leavesThatAreNotClosed();
+        leavesAreOpenAnew();
         treeOfSat();
         treeOfDeep();
         rowsAtMost();
@@ -104,6 +105,25 @@ final class LeavesTest {
         CHECK.due("a second side", Show.node(solver, 3), "2 none none none none 1");
         CHECK.due("a second side", Show.leaf(solver, 3), "");
         CHECK.hand("0 comes to hand", solver, solver.multiplier(3, 0, 0), Check.ratio(0, 1));
+    }
+
+    /** Where a tree was, another one begins: its leaves are not closed, and their multipliers are 0. */
+    private static void leavesAreOpenAnew() {
+        RowSolver solver = solved("W", "2 = 1");
+        solver.whole(0, true);
+        int[] nodes = {1, 2, 3};
+        for (int k = 0; k < nodes.length; k++) {
+            solver.solve(1);
+            CHECK.due("nodes", solver.state(8), nodes[k]);
+            CHECK.due("the last leaf", Show.node(solver, k), k == 0 ? "2 none none none none none" : "2 none none none none 0");
+            CHECK.due("the last leaf", Show.leaf(solver, k), "");
+        }
+        solver.row(1, 1);
+        solver.solve(1);
+        CHECK.due("an exchange, as before", Show.node(solver, 0), "2 none none none none none");
+        solver.solve(1);
+        CHECK.due("0 is not 1 or more", Show.node(solver, 0), "1 none none none none none");
+        CHECK.due("0 is not 1 or more", Show.leaf(solver, 0), "s1=-1");
     }
 
     private static void treeOfSat() {

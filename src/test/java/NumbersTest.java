@@ -26,6 +26,7 @@ final class NumbersTest {
         handIsKeptByRefusedCalls();
         handIsKeptWhenNothingIsBegun();
         handIsTheLastOne();
+        handIsAsItWas();
         CHECK.end();
     }
 
@@ -282,5 +283,27 @@ final class NumbersTest {
         CHECK.hand("multiplier", solver, solver.multiplier(1, 0, 0), Check.ratio(-1, 2));
         CHECK.hand("value", solver, solver.value(0), Check.ratio(1, 2));
         CHECK.hand("an open leaf's", solver, solver.multiplier(2, 0, 0), Check.ratio(0, 1));
+    }
+
+    /** What came to hand stays as it was then, also when the multiplier or the value is another one now. */
+    private static void handIsAsItWas() {
+        RowSolver solver = Problems.half();
+        solver.solve(3);
+        solver.multiplier(1, 0, 0);
+        CHECK.due("set", solver.setMultiplier(1, 0, 0, 5, 7), 0);
+        CHECK.hand("as it was", solver, -1, Check.ratio(-1, 2));
+        CHECK.hand("as it is", solver, solver.multiplier(1, 0, 0), Check.ratio(5, 7));
+        RowSolver moved = Problems.wedge();
+        moved.solve(3);
+        moved.value(1);
+        moved.solve(1);
+        CHECK.hand("x1 before", moved, -1, Check.ratio(-1, 1));
+        moved.told(1, 0);
+        moved.solve(20);
+        moved.witness();
+        moved.setWitness(0, 3, 5);
+        moved.judgeWitness();
+        moved.judgeTree();
+        CHECK.hand("x1 by x0", moved, 1, Check.ratio(2, 1));
     }
 }
