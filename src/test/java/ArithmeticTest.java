@@ -25,6 +25,7 @@ final class ArithmeticTest {
             test.divide(test.number(24), test.number(1 + test.random.nextInt(12)));
         }
         test.divideNearMultiples();
+        test.divideByHalfTheBase();
         for (int round = 0; round < 20_000; round++) {
             test.sums();
             test.reduce(test.number(10), test.number(8));
@@ -98,9 +99,12 @@ final class ArithmeticTest {
         int[] limbs = (int[]) field(big, "limbs").get(big);
         BigInteger number = BigInteger.ZERO;
         int length = field(big, "length").getInt(big);
+        boolean isWithin = true;
         for (int k = length - 1; k >= 0; k--) {
             number = number.multiply(BASE).add(BigInteger.valueOf(limbs[k]));
+            isWithin &= limbs[k] >= 0 && limbs[k] < 1_000_000_000;
         }
+        CHECK.due("limbs of " + number, isWithin ? 1 : 0, 1);
         int sign = field(big, "sign").getInt(big);
         boolean isTrimmed = length == 0 ? sign == 0 : limbs[length - 1] != 0 && sign != 0;
         CHECK.due("length and sign of " + number, isTrimmed ? 1 : 0, 1);
@@ -126,6 +130,21 @@ final class ArithmeticTest {
             BigInteger by = number(8).abs().add(BigInteger.ONE);
             BigInteger near = by.multiply(number(6).abs()).add(BigInteger.valueOf(random.nextInt(5) - 2));
             divide(near, by);
+        }
+    }
+
+    /** Where a guess is one too high, and what is added back does not carry from its lowest limb. */
+    private void divideByHalfTheBase() throws ReflectiveOperationException {
+        BigInteger half = BASE.shiftRight(1);
+        for (int zeros = 1; zeros <= 5; zeros++) {
+            BigInteger number = half.subtract(BigInteger.ONE).multiply(BASE).add(half).multiply(BASE.pow(zeros + 1));
+            for (int low = 1; low <= 5; low++) {
+                BigInteger by = half.multiply(BASE.pow(zeros + 1)).add(BigInteger.valueOf(low));
+                for (int shift = 0; shift <= 3; shift++) {
+                    divide(number.multiply(BASE.pow(shift)).add(BigInteger.valueOf(shift)), by);
+                    divide(number.multiply(BASE.pow(shift)), by.multiply(BigInteger.TWO).subtract(BigInteger.ONE));
+                }
+            }
         }
     }
 

@@ -26,6 +26,7 @@ final class SolvingTest {
         lastSplitIsEnough();
         farSplits();
         fartherSplits();
+        farBeyondALong();
         deepMakesNoSplit();
         startsAnew();
         CHECK.end();
@@ -330,6 +331,19 @@ final class SolvingTest {
             solver.solve(20_000);
             CHECK.due("10^" + 6 * end + " + 1/2", solver.state(0), end == 3 ? 3 : 4);
             CHECK.due("10^" + 6 * end + " + 1/2 splits", solver.state(4), end == 3 ? 1 : 0);
+        }
+    }
+
+    /** Times of 10^18 that, cut to 64 bits, would seem to be nearer: 18 * 10^18 is - 0.4 * 10^18 then, 19 * 10^18 0.6 * 10^18. */
+    private static void farBeyondALong() {
+        for (int times = -60; times <= 60; times++) {
+            String factor = String.valueOf(-2 * times);
+            RowSolver solver = Problems.told("---W", "1 0 0 0 = 1000000", "-1000000 1 0 0 = 0", "0 " + factor + " 1 0 = 0",
+                    "0 0 -1000000 2 = 1");
+            solver.solve(20_000);
+            boolean isNear = times >= -1 && times <= 1;
+            CHECK.due(times + " * 10^18 + 1/2", solver.state(0), isNear ? 3 : 4);
+            CHECK.due(times + " * 10^18 + 1/2 splits", solver.state(4), isNear ? 1 : 0);
         }
     }
 
