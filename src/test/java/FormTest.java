@@ -1,5 +1,6 @@
 import java.io.IOException;
 import java.lang.reflect.Member;
+import java.lang.reflect.Method;
 import java.lang.reflect.Modifier;
 import java.nio.file.Files;
 import java.nio.file.Path;
@@ -17,6 +18,10 @@ final class FormTest {
     private static final Set<String> FACE = new TreeSet<>(List.of("variables", "factor", "row", "whole", "solve", "state",
             "basic", "value", "told", "digits", "witness", "setWitness", "judgeWitness", "node", "multiplier",
             "setMultiplier", "setSplit", "judgeTree"));
+    private static final Set<String> CALLS = new TreeSet<>(List.of("variables(int)", "factor(int, int)", "row(int, int)",
+            "whole(int, boolean)", "solve(int)", "state(int)", "basic(int)", "value(int)", "told(int, int)",
+            "digits(int, int)", "witness()", "setWitness(int, int, int)", "judgeWitness()", "node(int, int)",
+            "multiplier(int, int, int)", "setMultiplier(int, int, int, int, int)", "setSplit(int, int)", "judgeTree()"));
     private static final List<String> FORBIDDEN = List.of("\\bthrow\\b", "\\btry\\b", "\\bcatch\\b", "\\bsynchronized\\b",
             "\\bassert\\b", "->", "::", "\\bimport\\b", "\\bpackage\\b", "\\bprotected\\b", "Exact\\(", "\\bnew \\w+\\(.*\\) *\\{",
             "\\bString\\b", "\\bfloat\\b", "\\bdouble\\b", "\\bequals\\b", "\\bhashCode\\b", "\\btoString\\b", "System\\.",
@@ -40,10 +45,13 @@ final class FormTest {
             CHECK.due(method.getName() + " is public or private", isPublic || isPrivate(method) ? 1 : 0, 1);
             CHECK.due(method.getName() + "'s name", FACE.contains(method.getName()) == isPublic ? 1 : 0, 1);
             if (isPublic) {
-                open.add(method.getName());
+                open.add(asCall(method));
+                CHECK.due(method.getName() + " answers", method.getReturnType().getName(), "int");
+                CHECK.due(method.getName() + " is of an object", Modifier.isStatic(method.getModifiers()) ? 1 : 0, 0);
+                CHECK.due(method.getName() + " names no exceptions", method.getExceptionTypes().length, 0);
             }
         }
-        CHECK.due("the public methods", open.equals(FACE) ? 1 : 0, 1);
+        CHECK.due("the public methods", open.toString(), CALLS.toString());
         Set<String> fields = new HashSet<>();
         for (var field : type.getDeclaredFields()) {
             boolean isPublic = Modifier.isPublic(field.getModifiers());
@@ -55,6 +63,14 @@ final class FormTest {
             }
         }
         CHECK.due("the public constants", fields.equals(Set.of("BAD", "NONE")) ? 1 : 0, 1);
+    }
+
+    private static String asCall(Method method) {
+        List<String> parameters = new ArrayList<>();
+        for (Class<?> type : method.getParameterTypes()) {
+            parameters.add(type.getName());
+        }
+        return method.getName() + "(" + String.join(", ", parameters) + ")";
     }
 
     private static boolean isPrivate(Member member) {
